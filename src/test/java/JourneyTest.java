@@ -210,6 +210,7 @@ public final class JourneyTest {
         Due.due("fare", x.fare(0, 0, 3, 2), 3 + 4);
         Due.due("fare", x.fare(0, 11, 3, 2), 4 + 6);
         Due.due("fare", x.fare(0, 0, 4, 1), 4);
+        Due.due("fare", x.fare(1, 0, 4, 1), 3);
         Due.due("fare", x.fare(1, 0, 5, 0), 0);
         Due.due("fare", x.fare(1, 0, 1, 0), 0);
         Due.due("fare", x.fare(0, 0, 3, 1), -5);
@@ -317,6 +318,11 @@ public final class JourneyTest {
         loss("worst", z.worst(0, 6, 2, 2, 0), 1);
         loss("worst", z.worst(1, 13, 2, 2, 0), 13);
         loss("worst", z.worst(1, 13, 2, 2, 1), 10000 - 71);
+        // One minute later is later; what is lost for the asking is there again behind it.
+        TripRounds o = Due.with("L0:0>1;T0:5+6;T0:5+5");
+        loss("worst", o.worst(0, 0, 1, 6, 0), 1);
+        loss("worst", o.worst(0, 0, 1, 6, 1), 1);
+        Due.due("earliest", o.earliest(0, 0, 1, 6), 10);
         // What doesn't run is no loss.
         TripRounds n = Due.with("L2:0>1;T0:500+5");
         loss("worst", n.worst(0, 0, 1, 6, 0), -5);
@@ -344,6 +350,14 @@ public final class JourneyTest {
         loss("cut", y.cut(0, 0, 8, 2, 0), 7);
         loss("cut", y.cut(0, 0, 7, 2, 0), 9);
         loss("cut", y.cut(9, 0, 8, 2, 0), 7);
+        TripRounds z = Due.with("L0:3>0;L0:0>1;L0:3>1;T0:0+5;T1:5+5;T2:0+11");
+        loss("cut", z.cut(3, 0, 1, 2, 0), 0);
+        loss("cut", z.cut(3, 0, 1, 2, 1), 1);
+        loss("cut", z.cut(3, 0, 1, 1, 1), -5);
+        Due.due("earliest", z.earliest(3, 0, 1, 2), 10);
+        TripRounds e = Due.with("L0:3>11;L0:11>1;T0:0+5;T1:5+5");
+        loss("cut", e.cut(3, 0, 1, 2, 0), 11);
+        Due.due("earliest", e.earliest(3, 0, 1, 2), 10);
     }
 
     private static void paper() {

@@ -1,7 +1,10 @@
 import java.util.List;
 import java.util.Random;
 
-/** Runs of random calls, held against the model; each run is a call's worth of an object's life. */
+/**
+ * Runs of random calls, held against the model. Some runs have more calls than the document promises
+ * answers for: to fill a timetable takes many, and the class keeps no count of its calls.
+ */
 public final class ModelTest {
     private static Random random;
     private static TripRounds x;

@@ -188,6 +188,8 @@ public final class TableTest {
         fault("D1.0", 3, net);
         fault("D0.0", 4, net);
         fault("D0.0.", 4, net);
+        fault("D0.00@0+5", 4, net);
+        fault("D00.0@0+5", 2, net);
         fault("D0.0@", 5, net);
         fault("D0.0@2", 5, net);
         fault("D0.0@9+5", 5, net);
