@@ -14,6 +14,8 @@ public final class TripRounds {
     private static final int STOPS = 12, LINES = 8, TRIPS = 6, SHORTEST = 2, LONGEST = 6;
     private static final int LAST_MINUTE = 1999, LAST_DELAYED = 9000;
     private static final int MOST_RIDES = 6, MOST_WALK = 60, MOST_DELAY = 99, SPAN = 100;
+    /** Halved down to 1, steps from this one on come past all minutes to leave. */
+    private static final int WIDEST_STEP = 1024;
     private static final int TAPE_ROOM = 80, PAPER_ROOM = 160;
 
     /** Above every minute that can be: trips end by 9000 and a walk takes 60 at most. */
@@ -179,14 +181,12 @@ public final class TripRounds {
         if (refused != 0) return refused;
         // Who leaves later is never there earlier, so the minutes that are
         // early enough stand ahead of those that are not.
-        int low = -1;
-        int high = by;
-        while (low < high) {
-            int middle = low + (high - low + 1) / 2;
-            if (search.arrival(from, middle, to, rides) <= by) low = middle;
-            else high = middle - 1;
+        int last = -1;
+        for (int step = WIDEST_STEP; step > 0; step /= 2) {
+            int later = last + step;
+            if (later <= by && search.arrival(from, later, to, rides) <= by) last = later;
         }
-        return low < 0 ? MISSING : low;
+        return last < 0 ? MISSING : last;
     }
 
     public int profile(int from, int to, int rides, int first, int last, int i) {
@@ -417,26 +417,17 @@ public final class TripRounds {
         }
 
         static boolean goesAt(int kind, int minute) {
+            boolean asTram = minute < 1300;
+            boolean asNight = minute < 300 || minute >= 1200;
+            boolean asExpress = asNight || minute % 60 == 0;
             switch (kind) {
-                case TRAM: return tramGoesAt(minute);
-                case NIGHT: return nightGoesAt(minute);
-                case EXPRESS: return expressGoesAt(minute);
-                case FERRY: return tramGoesAt(minute) && minute >= 400;
-                case CABLE: return expressGoesAt(minute);
+                case TRAM: return asTram;
+                case NIGHT: return asNight;
+                case EXPRESS: return asExpress;
+                case FERRY: return asTram && minute >= 400;
+                case CABLE: return asExpress;
                 default: return true;
             }
-        }
-
-        private static boolean tramGoesAt(int minute) {
-            return minute < 1300;
-        }
-
-        private static boolean nightGoesAt(int minute) {
-            return minute < 300 || minute >= 1200;
-        }
-
-        private static boolean expressGoesAt(int minute) {
-            return nightGoesAt(minute) || minute % 60 == 0;
         }
 
         static int price(int kind, int stopsMore) {
@@ -643,16 +634,16 @@ public final class TripRounds {
         int arrivalWithoutTrip(int from, int at, int to, int rides, int line, int trip) {
             lostLine = line;
             lostTrip = trip;
-            int minute = arrival(from, at, to, rides);
+            run(from, at, rides);
             loseNothing();
-            return minute;
+            return best[rides][to];
         }
 
         int arrivalWithoutStop(int from, int at, int to, int rides, int stop) {
             shutStop = stop;
-            int minute = arrival(from, at, to, rides);
+            run(from, at, rides);
             loseNothing();
-            return minute;
+            return best[rides][to];
         }
 
         void run(int from, int at, int rides) {

@@ -368,7 +368,7 @@ public final class ListEdgeTest {
         TripRounds x = net();
         x.image();
         String before = Setting.net(x);
-        for (int again = 0; again < 4; again++) {
+        for (int again = 0; again < 2; again++) {
             x.delay(0, 0, 1, 30 + again);
             x.walk(again, 9, 7);
             Due.table(x, "L0:5>6;T1:9+9");
@@ -393,14 +393,17 @@ public final class ListEdgeTest {
     private static void imageIsNoPartOfIt() {
         TripRounds x = Setting.fresh();
         String before = Setting.show(x);
-        Due.due("image", x.image(), 3);
-        Due.due("all behind it", Setting.show(x), before);
-        x.delay(1, 0, 0, 9);
-        x.undo();
-        x.delay(0, 0, 1, 9);
-        x.walk(2, 4, 0);
-        Due.due("undo", x.undo(), 3);
-        Due.due("all behind it", Setting.net(x), Setting.net(Setting.fresh()));
+        TripRounds y = Setting.fresh();
+        Due.due("image", y.image(), 3);
+        Due.due("all behind it", Setting.show(y), before);
+        y.delay(1, 0, 0, 9);
+        y.undo();
+        y.delay(0, 0, 1, 9);
+        y.walk(2, 4, 0);
+        Due.due("undo", y.undo(), 3);
+        Due.due("minute", y.minute(0, 0, 1), 25);
+        Due.due("minute", y.minute(1, 0, 0), 60);
+        Due.due("foot", y.foot(2, 4), 7);
     }
 
     /** A text with a fault is no change, to the image neither. */

@@ -460,7 +460,7 @@ public final class NetEdgeTest {
     private static TripRounds full() {
         TripRounds x = new TripRounds();
         for (int l = 0; l < 8; l++) {
-            Due.table(x, "L0:0>" + (l + 1));
+            Due.table(x, "L2:0>" + (l + 1));
             String text = "T" + l + ":" + l + "+1";
             for (int t = 1; t < 6; t++) text += ";T" + l + ":" + (l + t) + "+1";
             Due.due("table of " + text, Due.table(x, text), 6);
@@ -477,19 +477,22 @@ public final class NetEdgeTest {
             x.delay(l, 0, 0, 50);
             x.drop(l);
             x.drop(l);
-            Due.table(x, "T" + l + ":90+9");
+            Due.table(x, "T" + l + ":500+9");
         }
         Due.due("trips", x.told(1), 45);
+        Due.due("trips that run", x.told(3), 42);
         Due.due("undo", x.undo(), 8);
         Due.due("trips", x.told(1), 48);
+        Due.due("trips that run", x.told(3), 48);
         for (int l = 7; l > 4; l--) {
             Due.due("minute", x.minute(l, 0, 0), l);
             Due.due("minute", x.minute(l, 4, 1), l + 5);
             Due.due("minute", x.minute(l, 5, 1), l + 6);
+            Due.due("runs", x.runs(l, 4), 1);
         }
-        Due.due("minute", x.minute(8, 5, 1), NONE);
-        Due.due("minute", x.minute(7, 6, 1), NONE);
-        Due.due("minute", x.minute(7, 5, 2), NONE);
+        Due.due("no line", x.minute(8, 5, 1), NONE);
+        Due.due("no trip", x.minute(7, 6, 1), NONE);
+        Due.due("no stop", x.minute(7, 5, 2), NONE);
         Due.due("no room", Due.table(x, "T7:1+1"), -100);
     }
 

@@ -132,15 +132,13 @@ public final class TextEdgeTest {
     private static void faultAtTheEndOfAFullTape() {
         String most = "F0-1=1;F0-1=2;F0-1=3;F0-1=4;F0-1=5;F0-1=6;F0-1=7;F0-1=8;F0-1=9;F0-1=10;";
         Due.due("bytes", most.length(), 71);
-        TripRounds x = new TripRounds();
-        Due.due("table", Due.table(x, most + "F10-11=60"), 11);
-        Due.due("foot", x.foot(10, 11), 60);
-        Due.due("table", Due.table(x, most + "F2-3=60;F"), -180);
-        Due.due("table", Due.table(x, most + "F2-3=060"), -178);
-        Due.due("table", Due.table(x, most + "F02-03=60"), 11);
-        Due.due("table", Due.table(x, most + "F02-03=61"), -178);
-        Due.due("table", Due.table(x, most + "F02-3=60x"), -179);
-        Due.due("table", Due.table(x, most + "F02-3=60;"), -180);
+        fine(most + "F10-11=60", 11);
+        fine(most + "F02-03=60", 11);
+        fault(most + "F2-3=60;F", 80);
+        fault(most + "F2-3=060", 78);
+        fault(most + "F02-03=61", 78);
+        fault(most + "F02-3=60x", 79);
+        fault(most + "F02-3=60;", 80);
     }
 
     // ---- timetables
