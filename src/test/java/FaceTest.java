@@ -5,9 +5,13 @@ import java.lang.reflect.Method;
 import java.lang.reflect.Modifier;
 import java.nio.file.Files;
 import java.nio.file.Path;
+import java.util.ArrayList;
 import java.util.Arrays;
+import java.util.List;
 import java.util.Set;
 import java.util.TreeSet;
+import java.util.regex.Matcher;
+import java.util.regex.Pattern;
 
 /** The public face, the form that LANGUAGE.md asks for, and calls with any numbers at all. */
 public final class FaceTest {
@@ -22,7 +26,10 @@ public final class FaceTest {
         constants();
         face();
         nested(TripRounds.class);
+        sizes();
         source();
+        library();
+        methodLengths();
         anyNumbers();
         Due.end();
     }
@@ -67,16 +74,74 @@ public final class FaceTest {
         for (Class<?> c : outer.getDeclaredClasses()) {
             Due.due("static " + c, Modifier.isStatic(c.getModifiers()) ? 1 : 0, 1);
             Due.due("not public " + c, Modifier.isPublic(c.getModifiers()) ? 1 : 0, 0);
-            for (Field f : c.getDeclaredFields()) {
-                boolean wrong = Modifier.isStatic(f.getModifiers()) && !Modifier.isFinal(f.getModifiers());
-                Due.due("static and not final " + f, wrong ? 1 : 0, 0);
+            for (Method m : c.getDeclaredMethods()) {
+                boolean wrong = Modifier.isPrivate(m.getModifiers()) && isOfFace(m.getName());
+                Due.due("private with a public one's name " + m, wrong ? 1 : 0, 0);
             }
+            Due.due("classes in " + c, c.getDeclaredClasses().length, 0);
         }
     }
 
+    private static boolean isOfFace(String name) {
+        for (String call : FACE) {
+            if (call.startsWith(name + " ")) return true;
+        }
+        return false;
+    }
+
+    /** Rules 3, 5 and 11: of how many classes, fields and parameters, and of what types. */
+    private static void sizes() {
+        List<Class<?>> all = new ArrayList<>(List.of(TripRounds.class.getDeclaredClasses()));
+        all.add(TripRounds.class);
+        Due.due("at most 12 classes", all.size() <= 12 ? 1 : 0, 1);
+        Set<String> types = new TreeSet<>();
+        for (Class<?> c : all) {
+            int fields = 0;
+            for (Field f : c.getDeclaredFields()) {
+                if (!Modifier.isStatic(f.getModifiers())) fields++;
+                else Due.due("final and a number " + f, Modifier.isFinal(f.getModifiers()) && f.getType() == int.class ? 1 : 0, 1);
+                if (!all.contains(f.getType())) types.add(f.getType().getSimpleName());
+            }
+            Due.due("at most 20 fields in " + c, fields <= 20 ? 1 : 0, 1);
+            for (Method m : c.getDeclaredMethods()) {
+                Due.due("at most 7 parameters of " + m, m.getParameterCount() <= 7 ? 1 : 0, 1);
+            }
+        }
+        Due.due("types of fields", types.toString(), "[boolean, int, int[], int[][]]");
+    }
+
+    /** Rule 4: of the library nothing but this. */
+    private static void library() throws IOException {
+        Set<String> used = new TreeSet<>();
+        Matcher call = Pattern.compile("\\b(Arrays|Math|System|Integer|Long|String|StringBuilder|List|ArrayList)\\b(\\.\\w+)?").matcher(plainSource());
+        while (call.find()) used.add(call.group());
+        used.remove("Arrays");
+        Due.due("library", used.toString(), "[Arrays.fill, Math.max, Math.min, System.arraycopy]");
+    }
+
+    /** Rule 11: some sixty lines; a method ends with the next line that is as far in as its first one. */
+    private static void methodLengths() throws IOException {
+        String[] lines = plainSource().split("\n");
+        int methods = 0;
+        for (int i = 0; i < lines.length; i++) {
+            String in = lines[i].replaceAll("\\S.*", "");
+            if ((in.length() != 4 && in.length() != 8) || !lines[i].matches(" +[\\w \\[\\]]+\\([^;]*\\) \\{")) continue;
+            if (lines[i].matches(" +(if|for|while|switch) .*")) continue;
+            int end = i;
+            while (end < lines.length && !lines[end].equals(in + "}")) end++;
+            methods++;
+            Due.due("at most 60 lines:" + lines[i], end - i < 60 ? 1 : 0, 1);
+        }
+        Due.due("methods were found", methods > FACE.length ? 1 : 0, 1);
+    }
+
+    private static String plainSource() throws IOException {
+        String text = Files.readString(Path.of("src/main/java/TripRounds.java"));
+        return text.replaceAll("(?s)/\\*.*?\\*/", "").replaceAll("//[^\n]*", "");
+    }
+
     private static void source() throws IOException {
-        Path file = Path.of("src/main/java/TripRounds.java");
-        String text = Files.readString(file).replaceAll("(?s)/\\*.*?\\*/", "").replaceAll("//[^\n]*", "");
+        String text = plainSource();
         for (String word : new String[] {"throw", "throws", "try", "catch", "synchronized", "assert", "package"}) {
             Due.due(word, text.matches("(?s).*\\b" + word + "\\b.*") ? 1 : 0, 0);
         }
