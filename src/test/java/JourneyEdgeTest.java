@@ -16,6 +16,7 @@ public final class JourneyEdgeTest {
         rideNotWalk();
         leastLine();
         leastTrip();
+        whatDoesNotRun();
         latestOfItsStops();
         beginningByOneLess();
         walkFromLeastStop();
@@ -200,6 +201,31 @@ public final class JourneyEdgeTest {
         x.delay(0, 1, 1, 1);
         spelled(x, 0, 0, 5, 1, "L0.2:0>5");
         spelled(x, 0, 1, 5, 1, "L0.3:0>5");
+    }
+
+    /** "What doesn't RUN, isn't ridden": neither as a last RIDE, nor ahead of a WALK, though it ends just then. */
+    private static void whatDoesNotRun() {
+        int[] kinds = {1, 2, 3, 4, 5};
+        int[] begins = {1301, 301, 301, 399, 301};
+        for (int k = 0; k < kinds.length; k++) {
+            String net = "L" + kinds[k] + ":0>1;L0:0>1;F1-2=3;T0:" + begins[k] + "+5";
+            TripRounds x = Due.with(net);
+            Due.due("runs", x.runs(0, 0), 0);
+            Due.due("earliest", x.earliest(0, 0, 1, 6), -5);
+            Due.due("earliest", x.earliest(0, 0, 2, 6), -5);
+            Due.table(x, "T1:" + begins[k] + "+5");
+            spelled(x, 0, 0, 1, 1, "L1.0:0>1");
+            spelled(x, 0, 0, 2, 1, "L1.0:0>1 W:1>2");
+            Due.due("fare", x.fare(0, 0, 2, 1), 3);
+            Due.due("worst", x.worst(0, 0, 1, 1, 0), 10);
+        }
+        TripRounds x = Due.with("L3:0>1;T0:301+19;T0:300+20;T0:240+80");
+        spelled(x, 0, 0, 1, 1, "L0.1:0>1");
+        spelled(x, 0, 241, 1, 1, "L0.1:0>1");
+        Due.due("earliest", x.earliest(0, 301, 1, 1), -5);
+        x.delay(0, 1, 0, 1);
+        x.delay(0, 0, 1, 1);
+        spelled(x, 0, 241, 1, 1, "L0.1:0>1");
     }
 
     /** "the latest of its STOPS for which that is so" */

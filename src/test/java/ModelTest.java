@@ -11,6 +11,10 @@ public final class ModelTest {
     private static Model model;
     private static String run;
 
+    /** Every other run: few stops, and minutes by fives around one at which kinds begin or cease to run, so that many are the same. */
+    private static boolean dense;
+    private static int around;
+
     public static void main(String[] args) {
         int runs = args.length > 0 ? Integer.parseInt(args[0]) : 400;
         for (int seed = 0; seed < runs; seed++) oneRun(seed);
@@ -20,6 +24,8 @@ public final class ModelTest {
     private static void oneRun(int seed) {
         random = new Random(seed);
         run = "run " + seed;
+        dense = seed % 2 == 1;
+        around = new int[] {20, 300, 400, 1200, 1300, 240}[seed / 2 % 6];
         x = new TripRounds();
         model = new Model();
         Model image = null;
@@ -47,15 +53,23 @@ public final class ModelTest {
     }
 
     private static int stop() {
-        return random.nextInt(12);
+        return random.nextInt(dense && random.nextInt(12) != 0 ? 5 : 12);
+    }
+
+    private static int fives(int most) {
+        return 5 * (1 + random.nextInt(most));
     }
 
     private static String row(int stops) {
         StringBuilder text = new StringBuilder();
+        int had = 0;
         for (int i = 0; i < stops; i++) {
             if (i > 0) text.append('>');
             if (random.nextInt(8) == 0) text.append('0');
-            text.append(stop());
+            int stop = stop();
+            for (int k = 0; k < 20 && dense && (had >> stop & 1) == 1; k++) stop = stop();
+            had |= 1 << stop;
+            text.append(stop);
         }
         return text.toString();
     }
@@ -68,12 +82,15 @@ public final class ModelTest {
         if (what < 6) {
             int more = line < model.lines.size() ? model.lines.get(line).stops.length : 3;
             int begin = random.nextInt(6) == 0 ? random.nextInt(2010) : 60 * random.nextInt(5) + random.nextInt(40);
+            if (dense) begin = around - 25 + fives(8);
             StringBuilder text = new StringBuilder("T" + line + ":" + begin);
-            for (int i = 1; i < more; i++) text.append('+').append(1 + random.nextInt(9));
+            for (int i = 1; i < more; i++) text.append('+').append(dense ? fives(2) : 1 + random.nextInt(9));
             return text.toString();
         }
+        if (what == 6 && dense) return "F" + stop() + "-" + stop() + "=" + fives(4);
         if (what == 6) return "F" + stop() + "-" + stop() + "=" + (1 + random.nextInt(random.nextInt(4) == 0 ? 62 : 15));
-        return "D" + line + "." + random.nextInt(size + 1) + "@" + random.nextInt(4) + "+" + random.nextInt(20);
+        int more = dense ? fives(2) : random.nextInt(20);
+        return "D" + line + "." + random.nextInt(size + 1) + "@" + random.nextInt(4) + "+" + more;
     }
 
     private static String text(int size) {
@@ -108,7 +125,7 @@ public final class ModelTest {
         if (line.trips.isEmpty()) return;
         int t = random.nextInt(line.trips.size());
         int i = random.nextInt(line.stops.length);
-        int more = 1 + random.nextInt(99);
+        int more = dense ? fives(3) : 1 + random.nextInt(99);
         boolean can = model.delay(line.trips.get(t), i, more);
         Due.due(run + " delay", x.delay(l, t, i, more), can ? line.trips.get(t).minutes[i] : -4);
     }
@@ -126,7 +143,7 @@ public final class ModelTest {
     private static void walk() {
         int one = stop();
         int other = stop();
-        int minutes = random.nextInt(25);
+        int minutes = dense ? fives(5) - 5 : random.nextInt(25);
         int was = one == other ? -1 : model.foot[one][other] == 0 ? -5 : model.foot[one][other];
         Due.due(run + " walk", x.walk(one, other, minutes), was);
         if (one == other) return;
@@ -136,6 +153,7 @@ public final class ModelTest {
     }
 
     private static int minute() {
+        if (dense) return around - 25 + fives(10);
         return random.nextInt(10) == 0 ? random.nextInt(2000) : random.nextInt(300);
     }
 
