@@ -255,6 +255,28 @@ public final class JourneyEdgeTest {
         spelled(y, 0, 0, 5, 2, "W:0>2 L1.0:2>1 L2.0:1>5");
         y.delay(1, 0, 1, 1);
         spelled(y, 0, 0, 5, 2, "L0.0:0>1 L2.0:1>5");
+        beginningEarlierByMore();
+    }
+
+    /** One more RIDE leads to the beginning earlier, but ahead of the last RIDE it is one too many. */
+    private static void beginningEarlierByMore() {
+        TripRounds x = Due.with("L0:0>1;L0:0>2;L0:2>1;L0:1>3;T0:0+50;T1:0+10;T2:20+20;T3:60+5;F3-4=2");
+        Due.due("earliest", x.earliest(0, 0, 1, 1), 50);
+        Due.due("earliest", x.earliest(0, 0, 1, 2), 40);
+        spelled(x, 0, 0, 3, 2, "L0.0:0>1 L3.0:1>3");
+        spelled(x, 0, 0, 4, 2, "L0.0:0>1 L3.0:1>3 W:3>4");
+        for (int rides = 3; rides <= 6; rides++) {
+            spelled(x, 0, 0, 3, rides, "L1.0:0>2 L2.0:2>1 L3.0:1>3");
+            spelled(x, 0, 0, 4, rides, "L1.0:0>2 L2.0:2>1 L3.0:1>3 W:3>4");
+        }
+        x.walk(0, 1, 45);
+        spelled(x, 0, 0, 3, 1, "W:0>1 L3.0:1>3");
+        spelled(x, 0, 0, 3, 2, "W:0>1 L3.0:1>3");
+        spelled(x, 0, 0, 4, 2, "W:0>1 L3.0:1>3 W:3>4");
+        spelled(x, 0, 0, 3, 3, "L1.0:0>2 L2.0:2>1 L3.0:1>3");
+        Due.due("fare", x.fare(0, 0, 4, 2), 3);
+        Due.due("waiting", x.waiting(0, 0, 4, 2), 15);
+        Due.due("waiting", x.waiting(0, 0, 4, 3), 30);
     }
 
     private static void walkFromLeastStop() {

@@ -18,6 +18,7 @@ public final class ModelTest {
     public static void main(String[] args) {
         int runs = args.length > 0 ? Integer.parseInt(args[0]) : 400;
         for (int seed = 0; seed < runs; seed++) oneRun(seed);
+        for (int seed = 0; seed < runs; seed++) denseNet(seed);
         Due.end();
     }
 
@@ -263,6 +264,63 @@ public final class ModelTest {
         }
         Due.due(call + "board", x.board(stop, from, board.size(), 0), -5);
         Due.due(call + "missed", x.missed(stop), model.missed(stop));
+    }
+
+    /** A timetable as full as it can be, with journeys of many rides: all of them from some stops. */
+    private static void denseNet(int seed) {
+        random = new Random(seed);
+        run = "net " + seed;
+        x = new TripRounds();
+        model = new Model();
+        boolean byFives = seed % 2 == 1;
+        int stops = 5 + seed / 2 % 8;
+        fill(stops, byFives);
+        for (int k = 0; k < 3; k++) {
+            int from = random.nextInt(stops);
+            int at = byFives ? fives(6) - 5 : random.nextInt(30);
+            for (int to = 0; to < 12; to++) {
+                for (int r = 0; r <= 6; r++) allOfOne(from, at, to, r);
+            }
+        }
+    }
+
+    private static void fill(int stops, boolean byFives) {
+        boolean chain = random.nextInt(3) == 0;
+        for (int l = 0; l < 8; l++) {
+            StringBuilder text = new StringBuilder("L" + (random.nextInt(3) == 0 ? random.nextInt(6) : 0) + ":");
+            int had = 0;
+            int many = 2 + random.nextInt(3);
+            for (int i = 0; i < many; i++) {
+                int stop = chain && i < 2 ? (l + i) % stops : random.nextInt(stops);
+                while ((had >> stop & 1) == 1) stop = random.nextInt(stops);
+                had |= 1 << stop;
+                text.append(i > 0 ? ">" : "").append(stop);
+            }
+            tell(text.toString());
+            for (int t = 2 + random.nextInt(5); t > 0; t--) tell(trip(l, chain ? 10 * l : 0, byFives));
+        }
+        for (int f = random.nextInt(6); f > 0; f--) {
+            int one = random.nextInt(stops);
+            int other = random.nextInt(stops);
+            if (one != other) tell("F" + one + "-" + other + "=" + (byFives ? fives(3) : 1 + random.nextInt(15)));
+        }
+    }
+
+    /** Most begin below 300 and run therefore, whatever their kind. */
+    private static String trip(int line, int least, boolean byFives) {
+        int begin = least + (random.nextInt(12) == 0 ? 280 : 0) + (byFives ? fives(20) - 5 : random.nextInt(100));
+        StringBuilder text = new StringBuilder("T" + line + ":" + begin);
+        for (int i = 1; i < model.lines.get(line).stops.length; i++) {
+            text.append('+').append(byFives ? fives(3) : 1 + random.nextInt(15));
+        }
+        return text.toString();
+    }
+
+    private static void allOfOne(int from, int at, int to, int r) {
+        String call = run + " from " + from + " at " + at + " to " + to + " by " + r + " ";
+        Due.due(call + "earliest", x.earliest(from, at, to, r), orMissing(model.earliest(from, at, to, r)));
+        journey(call, from, at, to, r);
+        if (random.nextInt(24) == 0) losses(call, from, at, to, r);
     }
 
     /** All that the timetable holds. */
