@@ -27,6 +27,7 @@ public final class JourneyEdgeTest {
         rideAheadOfAWalk();
         walkAheadOfARide();
         legsNoneAndMost();
+        mostLegsOfAll();
         legMinutes();
         legOfLastStops();
         faresOfAll();
@@ -361,6 +362,29 @@ public final class JourneyEdgeTest {
             Due.due("waiting to " + to, x.waiting(0, 9, to, 6), end - 9 - 5 * rides - (to + 1) / 2);
             Due.due("legs to " + to + " too late", x.legs(0, 10, to, 6), to < 2 ? to : -5);
         }
+    }
+
+    /** Six rides, each with a walk ahead of it and behind it: at stops 10 and 11 one is first by a walk, then by a ride. */
+    private static void mostLegsOfAll() {
+        TripRounds x = Due.with("L0:10>1;L0:11>10;L0:2>11;L0:3>4;L0:5>6;L0:7>8",
+            "F0-10=1;F1-11=1;F2-10=1;F3-11=1;F4-5=1;F6-7=1;F8-9=1", "T0:10+5;T1:20+5;T2:30+5;T3:40+5;T4:50+5;T5:60+5");
+        Due.due("earliest", x.earliest(0, 9, 9, 6), 66);
+        String due = "W:0>10 L0.0:10>1 W:1>11 L1.0:11>10 W:10>2 L2.0:2>11 W:11>3 L3.0:3>4 W:4>5 L4.0:5>6 W:6>7 L5.0:7>8 W:8>9";
+        spelled(x, 0, 9, 9, 6, due);
+        Due.due("legs", x.legs(0, 9, 9, 6), 13);
+        Due.due("bytes", x.told(6), 103);
+        Due.due("the last byte", x.paper(102), '9');
+        Due.due("behind it", x.paper(103), NONE);
+        legIs(x, new int[] {0, 9, 9, 6}, 0, -5, -5, 0, 10, 9, 10);
+        legIs(x, new int[] {0, 9, 9, 6}, 12, -5, -5, 8, 9, 65, 66);
+        legIs(x, new int[] {0, 9, 9, 6}, 13, NONE, NONE, NONE, NONE, NONE, NONE);
+        Due.due("fare", x.fare(0, 9, 9, 6), 18);
+        Due.due("waiting", x.waiting(0, 9, 9, 6), 20);
+        Due.due("worth", x.worth(0, 9, 9), 1 << 6);
+        Due.due("one less", x.legs(0, 9, 9, 5), -5);
+        Due.due("too late", x.legs(0, 10, 9, 6), -5);
+        spelled(x, 0, 9, 10, 6, "W:0>10");
+        spelled(x, 0, 9, 8, 6, due.substring(0, due.length() - 6));
     }
 
     private static void legIs(TripRounds x, int[] c, int i, int... due) {
