@@ -275,9 +275,11 @@ public final class ModelTest {
         boolean byFives = seed % 2 == 1;
         int stops = 5 + seed / 2 % 8;
         fill(stops, byFives);
+        boolean late = random.nextInt(8) == 0;
+        if (late) delayAll();
         for (int k = 0; k < 3; k++) {
             int from = random.nextInt(stops);
-            int at = byFives ? fives(6) - 5 : random.nextInt(30);
+            int at = (late ? 1970 : 0) + (byFives ? fives(6) - 5 : random.nextInt(30));
             for (int to = 0; to < 12; to++) {
                 for (int r = 0; r <= 6; r++) allOfOne(from, at, to, r);
             }
@@ -316,11 +318,25 @@ public final class ModelTest {
         return text.toString();
     }
 
+    /** By so much that most go on above 1999. */
+    private static void delayAll() {
+        for (int l = 0; l < model.lines.size(); l++) {
+            List<Model.Trip> trips = model.lines.get(l).trips;
+            for (int t = 0; t < trips.size(); t++) {
+                for (int n = 0; n < 20; n++) {
+                    model.delay(trips.get(t), 0, 99);
+                    Due.due(run + " delay", x.delay(l, t, 0, 99), trips.get(t).minutes[0]);
+                }
+            }
+        }
+    }
+
     private static void allOfOne(int from, int at, int to, int r) {
         String call = run + " from " + from + " at " + at + " to " + to + " by " + r + " ";
         Due.due(call + "earliest", x.earliest(from, at, to, r), orMissing(model.earliest(from, at, to, r)));
         journey(call, from, at, to, r);
         if (random.nextInt(24) == 0) losses(call, from, at, to, r);
+        if (random.nextInt(150) == 0) spans(call, from, at, to, r);
     }
 
     /** All that the timetable holds. */

@@ -34,6 +34,7 @@ public final class SpanEdgeTest {
         cutLegsNotStopsRiddenThrough();
         cutFirstAndLastStop();
         cutWalks();
+        lateLosses();
         lossesLeaveAll();
         Due.end();
     }
@@ -382,6 +383,22 @@ public final class SpanEdgeTest {
         cutIs(x, new int[] {5, 0, 6, 2}, 0, NEVER - 10);
         cutIs(x, new int[] {5, 0, 7, 2}, 11, NEVER - 10);
         cutIs(x, new int[] {5, 0, 0, 2}, -5, -5);
+    }
+
+    /** Late TRIPS, that go on above 1999, are lost as others are. */
+    private static void lateLosses() {
+        TripRounds x = Due.with("L0:0>1;L0:1>2;T0:1980+10;T1:1990+9");
+        int more = 60 * 99;
+        for (int n = 0; n < 60; n++) x.delay(0, 0, 0, 99);
+        for (int n = 0; n < 60; n++) x.delay(1, 0, 0, 99);
+        int[] call = {0, 1999, 2, 2};
+        Due.due("earliest", x.earliest(0, 1999, 2, 2), 1999 + more);
+        cutIs(x, call, 1, NEVER - 1999 - more);
+        worstIs(x, call, 0, NEVER - 1999 - more);
+        Due.table(x, "L0:0>3>2;T2:1+1+1");
+        for (int n = 0; n < 90; n++) x.delay(2, 0, 0, 99);
+        cutIs(x, call, 1, 3 + 90 * 99 - 1999 - more);
+        worstIs(x, call, 0, 3 + 90 * 99 - 1999 - more);
     }
 
     /** A walk to the stop, and one from it, are legs. */
